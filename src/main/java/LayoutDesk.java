@@ -9,6 +9,7 @@ public final class LayoutDesk {
     private static final int MOST_SPACES = 80;
     private static final int MOST_READS = 30;
     private static final int FAULT_ANSWER = -100;
+    private static final int LEAST_INT = -2147483648;
 
     private final Text text;
     private final Lexemes lexemes;
@@ -153,7 +154,7 @@ public final class LayoutDesk {
 
     public int node(int i, int what) {
         if (!tree.has(i)) {
-            return Integer.MIN_VALUE;
+            return LEAST_INT;
         }
         switch (what) {
             case 0:
@@ -167,7 +168,7 @@ public final class LayoutDesk {
             case 4:
                 return tree.nameLengthOf(i);
             default:
-                return Integer.MIN_VALUE;
+                return LEAST_INT;
         }
     }
 
@@ -300,6 +301,10 @@ public final class LayoutDesk {
         static final int LIST = 10, LAMBDA = 11, LET = 12, IF = 13, CASE = 14, DO = 15;
         static final int BLOCK = 16, ALTERNATIVE = 17, TAKING = 18, LETTING = 19;
 
+        static int ofLeaf(int sort) {
+            return sort == Sort.NAME ? NAME : sort == Sort.CON ? CON : NUMBER;
+        }
+
         static boolean isNamed(int kind) {
             return kind == DECLARATION || kind == NAME || kind == CON || kind == OPERATOR;
         }
@@ -322,6 +327,7 @@ public final class LayoutDesk {
         private int size;
         private int faultNumber;
         private int faultPlace;
+        private int endOpening;
         private int place;
         private int lineStart;
         private boolean lineHasLexeme;
@@ -371,10 +377,7 @@ public final class LayoutDesk {
 
         /** The OPENING of LEXEME i, or of the end, where there is none. */
         int openingOf(int i) {
-            if (i >= 0 && i < size) {
-                return openings[i];
-            }
-            return size == 0 || Sort.opensBlock(sortOf(size - 1)) ? 0 : NONE;
+            return i >= 0 && i < size ? openings[i] : endOpening;
         }
 
         int indentOf(int i) {
@@ -392,6 +395,12 @@ public final class LayoutDesk {
             for (int turn = 0; turn < end && place < end && faultNumber == 0; turn++) {
                 goOn(text.byteAt(place));
             }
+            endOpening = isBlockDue() ? 0 : NONE;
+        }
+
+        /** Whether a block begins with what comes next, if that is not {. */
+        private boolean isBlockDue() {
+            return size == 0 || Sort.opensBlock(sortOf(size - 1));
         }
 
         private void goOn(int value) {
@@ -486,8 +495,7 @@ public final class LayoutDesk {
                 refuse(5);
             } else {
                 int column = place - lineStart + 1;
-                boolean opens = sort != Sort.BRACE_OPEN
-                        && (size == 0 || Sort.opensBlock(sortOf(size - 1)));
+                boolean opens = sort != Sort.BRACE_OPEN && isBlockDue();
                 places[size] = place;
                 columns[size] = column;
                 sorts[size] = sort;
@@ -646,6 +654,8 @@ public final class LayoutDesk {
         private final int[] contexts;
         private int size;
         private int depth;
+        // The CONTEXT on top; NONE, which is below all of them, if there is none.
+        private int top;
         private int position;
         private int phase;
         private int column;
@@ -679,6 +689,7 @@ public final class LayoutDesk {
         void start() {
             size = 0;
             depth = 0;
+            top = NONE;
             position = 0;
             meetLexeme();
         }
@@ -691,7 +702,7 @@ public final class LayoutDesk {
                 case EMPTY_BLOCK:
                     return Sort.BRACE_CLOSE;
                 case INDENTED:
-                    return column == context() ? Sort.SEMICOLON : Sort.BRACE_CLOSE;
+                    return column == top ? Sort.SEMICOLON : Sort.BRACE_CLOSE;
                 default:
                     return plainSort();
             }
@@ -719,7 +730,7 @@ public final class LayoutDesk {
         /** parse-error(t), once the Parser knows that } could stand: whether it was put in. */
         boolean closeByError() {
             int sort = sort();
-            if (phase != PLAIN || position >= lexemes.size() || context() <= 0
+            if (phase != PLAIN || position >= lexemes.size() || top <= 0
                     || sort == Sort.BRACE_OPEN || sort == Sort.STRAY_CLOSE) {
                 return false;
             }
@@ -737,20 +748,15 @@ public final class LayoutDesk {
                 return lexemes.sortOf(position) == word;
             }
             int indent = lexemes.indentOf(position + 1);
-            return lexemes.sortOf(position + 1) == word && (indent == NONE || indent > context());
-        }
-
-        /** The CONTEXT on top; NONE, which is below all of them, if there is none. */
-        private int context() {
-            return depth > 0 && depth <= contexts.length ? contexts[depth - 1] : NONE;
+            return lexemes.sortOf(position + 1) == word && (indent == NONE || indent > top);
         }
 
         private int plainSort() {
             if (position >= lexemes.size()) {
-                return context() > 0 ? Sort.BRACE_CLOSE : Sort.END;
+                return top > 0 ? Sort.BRACE_CLOSE : Sort.END;
             }
             int sort = lexemes.sortOf(position);
-            return sort == Sort.BRACE_CLOSE && context() != 0 ? Sort.STRAY_CLOSE : sort;
+            return sort == Sort.BRACE_CLOSE && top != 0 ? Sort.STRAY_CLOSE : sort;
         }
 
         private void meetLexeme() {
@@ -759,24 +765,21 @@ public final class LayoutDesk {
             if (opening != NONE) {
                 phase = OPENING;
                 column = opening;
-            } else if (indent != NONE) {
-                phase = INDENTED;
-                column = indent;
-                passIndent();
             } else {
-                phase = PLAIN;
+                phase = indent != NONE && indent <= top ? INDENTED : PLAIN;
+                column = indent;
             }
         }
 
         private void passIndent() {
-            if (column > context()) {
+            if (column > top) {
                 phase = PLAIN;
             }
         }
 
         private void takeOpening() {
             keep(OPEN_PUT_IN);
-            if (column > Math.max(0, context())) {
+            if (column > Math.max(0, top)) {
                 enterContext(column);
                 phase = PLAIN;
             } else {
@@ -785,7 +788,7 @@ public final class LayoutDesk {
         }
 
         private void takeIndent() {
-            if (column == context()) {
+            if (column == top) {
                 keep(PART_PUT_IN);
                 phase = PLAIN;
             } else {
@@ -823,6 +826,7 @@ public final class LayoutDesk {
             if (depth < contexts.length) {
                 contexts[depth] = context;
                 depth++;
+                top = context;
             }
         }
 
@@ -830,6 +834,7 @@ public final class LayoutDesk {
             if (depth > 0) {
                 depth--;
             }
+            top = depth > 0 && depth <= contexts.length ? contexts[depth - 1] : NONE;
         }
     }
 
@@ -1201,6 +1206,7 @@ public final class LayoutDesk {
             return true;
         }
 
+        /** An ATOM, whose first TOKEN was looked at. */
         private boolean parseAtom(int open) {
             int sort = feed.sort();
             switch (sort) {
@@ -1209,23 +1215,8 @@ public final class LayoutDesk {
                 case Sort.SQUARE_OPEN:
                     return mayOpen(open) && parseRow(Kind.LIST, Sort.SQUARE_CLOSE, open + 1);
                 default:
-                    return parsePlain(sort);
-            }
-        }
-
-        private boolean parsePlain(int sort) {
-            switch (sort) {
-                case Sort.NAME:
-                    takeLeaf(Kind.NAME);
+                    takeLeaf(Kind.ofLeaf(sort));
                     return true;
-                case Sort.CON:
-                    takeLeaf(Kind.CON);
-                    return true;
-                case Sort.NUMBER:
-                    takeLeaf(Kind.NUMBER);
-                    return true;
-                default:
-                    return refuse(4);
             }
         }
 
@@ -1256,8 +1247,12 @@ public final class LayoutDesk {
 
         private boolean parsePattern(int open) {
             int sort = feed.sort();
+            if (!Sort.beginsPattern(sort)) {
+                return refuse(4);
+            }
             if (sort != Sort.ROUND_OPEN) {
-                return parsePlain(sort);
+                takeLeaf(Kind.ofLeaf(sort));
+                return true;
             }
             if (!mayOpen(open)) {
                 return false;

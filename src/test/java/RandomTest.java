@@ -10,6 +10,7 @@ public final class RandomTest {
   private static final Bench BENCH = new Bench();
   private static final int TREES = 6000;
   private static final int SPOILT = 4;
+  private static final int SOUPS = 20000;
 
   public static void main(String[] args) {
     int read = 0;
@@ -33,6 +34,9 @@ public final class RandomTest {
           faults++;
         }
       }
+    }
+    for (int seed = 0; seed < SOUPS; seed++) {
+      oracle(soup(new Random(seed)));
     }
     System.out.println(read + " trees, " + faults + " spoilt texts with a FAULT, " + whole + " without");
     BENCH.end();
@@ -108,6 +112,18 @@ public final class RandomTest {
   private static final String[] WORDS = {
     "a", "B", "1", "+", "(", ")", "[", "]", ",", ";", "{", "}", "\\", "=", "->", "<-", "let", "in",
     "where", "do", "of", "case", "if", "then", "else"};
+
+  /** Words by chance, most of them behind a beginning that lets many stand. */
+  private static String soup(Random chance) {
+    String[] beginnings = {"", "f = ", "f = do ", "f = if do a\n  ", "f = case a of b -> ", "{f = do ",
+      "f = (do let a = ", "f = do\n   let a = b\n   ", "f = do if a\n       ", "{f = do {let {a = do\n  b"};
+    StringBuilder text = new StringBuilder(beginnings[chance.nextInt(beginnings.length)]);
+    for (int n = chance.nextInt(14); n > 0; n--) {
+      text.append(WORDS[chance.nextInt(WORDS.length)]);
+      text.append(chance.nextInt(5) == 0 ? "\n" + " ".repeat(chance.nextInt(10)) : " ");
+    }
+    return text.toString();
+  }
 
   /** One to three words are put in, taken away or changed, or blanks and lines are. */
   private static String spoil(String text, Random chance) {

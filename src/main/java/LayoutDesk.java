@@ -305,6 +305,21 @@ public final class LayoutDesk {
             return sort == Sort.NAME ? NAME : sort == Sort.CON ? CON : NUMBER;
         }
 
+        static int ofOperand(int sort) {
+            switch (sort) {
+                case Sort.BACKSLASH:
+                    return LAMBDA;
+                case Sort.LET:
+                    return LET;
+                case Sort.IF:
+                    return IF;
+                case Sort.CASE:
+                    return CASE;
+                default:
+                    return DO;
+            }
+        }
+
         static boolean isNamed(int kind) {
             return kind == DECLARATION || kind == NAME || kind == CON || kind == OPERATOR;
         }
@@ -1136,35 +1151,30 @@ public final class LayoutDesk {
             if (!mayOpen(open)) {
                 return false;
             }
-            int start = tree.add(Kind.BLOCK);
+            int start = tree.add(Kind.ofOperand(sort));
             feed.take();
-            if (!parseRest(sort, start, open + 1)) {
+            if (!parseRest(sort, open + 1)) {
                 return false;
             }
             tree.close(start);
             return true;
         }
 
-        /** What comes behind the first word of an operand, whose NODE is at start. */
-        private boolean parseRest(int sort, int start, int open) {
+        /** What comes behind the first TOKEN of an operand. */
+        private boolean parseRest(int sort, int open) {
             switch (sort) {
                 case Sort.BACKSLASH:
-                    tree.setKind(start, Kind.LAMBDA);
                     return parseLambda(open);
                 case Sort.LET:
-                    tree.setKind(start, Kind.LET);
                     return parseBlockNode(DECLARATIONS, open) && expect(Sort.IN)
                             && parseExpression(open);
                 case Sort.IF:
-                    tree.setKind(start, Kind.IF);
                     return parseExpression(open) && parseBranch(Sort.THEN, open)
                             && parseBranch(Sort.ELSE, open);
                 case Sort.CASE:
-                    tree.setKind(start, Kind.CASE);
                     return parseExpression(open) && expect(Sort.OF)
                             && parseBlockNode(CASES, open);
                 default:
-                    tree.setKind(start, Kind.DO);
                     return parseBlockNode(STEPS, open);
             }
         }

@@ -678,7 +678,7 @@ public final class LayoutDesk {
         Feed(Lexemes source) {
             lexemes = source;
             tokens = new int[MOST];
-            contexts = new int[Openings.MOST_OPEN];
+            contexts = new int[Lexemes.MOST + 1];
         }
 
         int size() {
@@ -737,16 +737,24 @@ public final class LayoutDesk {
                     takeIndent();
                     break;
                 default:
-                    takePlain();
+                    if (position < lexemes.size()) {
+                        takeLexeme();
+                        meetLexeme();
+                    } else {
+                        keep(CLOSE_PUT_IN);
+                        leaveContext();
+                    }
                     break;
             }
         }
 
         /** parse-error(t), once the Parser knows that } could stand: whether it was put in. */
         boolean closeByError() {
-            int sort = sort();
-            if (phase != PLAIN || position >= lexemes.size() || top <= 0
-                    || sort == Sort.BRACE_OPEN || sort == Sort.STRAY_CLOSE) {
+            if (phase != PLAIN || position >= lexemes.size() || top <= 0) {
+                return false;
+            }
+            int sort = lexemes.sortOf(position);
+            if (sort == Sort.BRACE_OPEN || sort == Sort.BRACE_CLOSE) {
                 return false;
             }
             keep(CLOSE_BY_ERROR);
@@ -813,12 +821,7 @@ public final class LayoutDesk {
             }
         }
 
-        private void takePlain() {
-            if (position >= lexemes.size()) {
-                keep(CLOSE_PUT_IN);
-                leaveContext();
-                return;
-            }
+        private void takeLexeme() {
             int sort = lexemes.sortOf(position);
             if (sort == Sort.BRACE_OPEN) {
                 enterContext(0);
@@ -827,7 +830,6 @@ public final class LayoutDesk {
             }
             keep(position);
             position++;
-            meetLexeme();
         }
 
         private void keep(int token) {
@@ -854,45 +856,73 @@ public final class LayoutDesk {
     }
 
     /**
-     * How far within one another things were opened, and where. A let in a step turns out to be an
-     * operand only when its in comes; then all that was opened in it is one further in.
+     * What was opened, each with how many were open then, itself counted in. A let in a step turns
+     * out to be an operand only when in comes behind its block; then it counts, also in all that was
+     * opened in it. So what is too far in is known only when all was read.
      */
     private static final class Openings {
-        static final int MOST_OPEN = 30;
+        private static final int MOST_OPEN = 30;
+        // A LEXEME may open an operand or a bracket, and a block may begin with it, or with the end.
         private static final int MOST = 2 * (Lexemes.MOST + 1);
 
         private final int[] depths;
         private final int[] tokens;
         private final int[] positions;
+        // The openings of the lets in steps whose blocks have not ended yet.
+        private final int[] lets;
         private int size;
+        private int letsPending;
+        private int depth;
 
         Openings() {
             depths = new int[MOST];
             tokens = new int[MOST];
             positions = new int[MOST];
-        }
-
-        int size() {
-            return size;
+            lets = new int[Lexemes.MOST];
         }
 
         void empty() {
             size = 0;
+            letsPending = 0;
+            depth = 0;
         }
 
-        void add(int depth, int token, int position) {
-            if (size < MOST) {
-                depths[size] = depth;
-                tokens[size] = token;
-                positions[size] = position;
-                size++;
+        /** Something opens at the LEXEME of that position; so many TOKENS are ahead of it. */
+        void enter(int token, int position) {
+            depth++;
+            add(token, position);
+        }
+
+        void leave() {
+            depth--;
+        }
+
+        /** A let in a step, which does not count yet. */
+        void enterLetStep(int token, int position) {
+            if (letsPending < lets.length) {
+                lets[letsPending] = size;
+                letsPending++;
+            }
+            add(token, position);
+        }
+
+        /** The block of the latest let in a step has ended; if in comes, the let is open on. */
+        void settleLetStep(boolean isOperand) {
+            if (letsPending <= 0 || letsPending > lets.length) {
+                return;
+            }
+            letsPending--;
+            if (isOperand) {
+                depth++;
+                for (int i = Math.max(0, lets[letsPending]); i < size; i++) {
+                    depths[i]++;
+                }
             }
         }
 
-        /** All from the first on go one further in: the first that is too far in then; NONE. */
-        int deepen(int first) {
-            for (int i = Math.max(0, first); i < size; i++) {
-                depths[i]++;
+        /** NONE, if nothing is too far in. */
+        int firstTooFarIn() {
+            for (int i = 0; i < size; i++) {
                 if (depths[i] > MOST_OPEN) {
                     return i;
                 }
@@ -907,20 +937,133 @@ public final class LayoutDesk {
         int positionOf(int i) {
             return i >= 0 && i < size ? positions[i] : 0;
         }
+
+        private void add(int token, int position) {
+            if (size < MOST) {
+                depths[size] = depth;
+                tokens[size] = token;
+                positions[size] = position;
+                size++;
+            }
+        }
+    }
+
+    /** What the grammar awaits: a TOKEN, told by its Sort, or one of these. */
+    private static final class Due {
+        // The block behind its word.
+        static final int DECLARATION_BLOCK = 32, CASE_BLOCK = 33, STEP_BLOCK = 34;
+        // In a block, behind { or ;.
+        static final int DECLARATIONS = 35, CASES = 36, STEPS = 37;
+        // With one of the three above: a single thing, and what may come behind it.
+        static final int SINGLE = 3, BEHIND = 6;
+        static final int DECLARATION = DECLARATIONS + SINGLE, CASE = CASES + SINGLE;
+        static final int STEP = STEPS + SINGLE;
+        static final int BEHIND_DECLARATION = DECLARATIONS + BEHIND, BEHIND_CASE = CASES + BEHIND;
+        static final int BEHIND_STEP = STEPS + BEHIND;
+        // Perhaps where with its block; <- behind the beginning of a step; in behind its let.
+        static final int WHERE = 44, TAKING = 45, LETTING = 46;
+
+        static final int PATTERN = 47, PATTERNS = 48, WHOLE_PATTERN = 49;
+        static final int EXPRESSION = 50, OPERAND = 51, ATOM = 52;
+        // Behind the first operand, the first ATOM: perhaps more of them, then any number.
+        static final int CHAIN = 53, LINKS = 54, APPLIED = 55, ATOMS = 56;
+        // Behind an expression in ( ) or [ ].
+        static final int ROW = 57;
+        // A NODE is whole; it is also open no more.
+        static final int NODE_END = 58, OPENED_END = 59;
+
+        static final int[] IN_DECLARATION = {PATTERNS, Sort.EQUALS, EXPRESSION, WHERE};
+        static final int[] IN_CASE = {WHOLE_PATTERN, Sort.ARROW, EXPRESSION, WHERE};
+        static final int[] IN_BRACKETS = {WHOLE_PATTERN, Sort.ROUND_CLOSE};
+        static final int[] IN_LAMBDA = {PATTERN, PATTERNS, Sort.ARROW, EXPRESSION};
+        static final int[] IN_LET = {DECLARATION_BLOCK, Sort.IN, EXPRESSION};
+        static final int[] IN_IF = {EXPRESSION, Sort.THEN, EXPRESSION, Sort.ELSE, EXPRESSION};
+        static final int[] IN_CASE_OF = {EXPRESSION, Sort.OF, CASE_BLOCK};
+        static final int[] IN_DO = {STEP_BLOCK};
+
+        /** What is due behind the first TOKEN of an operand. */
+        static int[] inOperand(int sort) {
+            switch (sort) {
+                case Sort.BACKSLASH:
+                    return IN_LAMBDA;
+                case Sort.LET:
+                    return IN_LET;
+                case Sort.IF:
+                    return IN_IF;
+                case Sort.CASE:
+                    return IN_CASE_OF;
+                default:
+                    return IN_DO;
+            }
+        }
+    }
+
+    /** All that is due, the next on top, each with the NODE that it is about. */
+    private static final class Pile {
+        // No LEXEME leaves more than six behind for later; an if does.
+        private static final int MOST = 6 * (Lexemes.MOST + 2);
+
+        private final int[] dues;
+        private final int[] nodes;
+        private int size;
+
+        Pile() {
+            dues = new int[MOST];
+            nodes = new int[MOST];
+        }
+
+        boolean isEmpty() {
+            return size <= 0;
+        }
+
+        void empty() {
+            size = 0;
+        }
+
+        void push(int due, int node) {
+            if (size < MOST) {
+                dues[size] = due;
+                nodes[size] = node;
+                size++;
+            }
+        }
+
+        /** The row is due from its first on; end, which is about the NODE, behind it. */
+        void pushRow(int[] row, int end, int node) {
+            push(end, node);
+            for (int k = row.length - 1; k >= 0; k--) {
+                push(row[k], NONE);
+            }
+        }
+
+        int topDue() {
+            return size > 0 && size <= MOST ? dues[size - 1] : NONE;
+        }
+
+        int topNode() {
+            return size > 0 && size <= MOST ? nodes[size - 1] : NONE;
+        }
+
+        void pop() {
+            if (size > 0) {
+                size--;
+            }
+        }
     }
 
     /**
-     * The grammar of section 2, from the left, with the TOKEN at hand alone. Its methods answer
-     * whether all went well; the argument open tells how many are open around.
+     * The grammar of section 2, from the left, with the TOKEN at hand alone. It goes by a Pile and
+     * not by recursion, since it must go on where too much is open: an in further on may make an
+     * earlier let the one that is too far in.
      */
     private static final class Parser {
-        private static final int DECLARATIONS = 0, CASES = 1, STEPS = 2;
-        // Above the TOKENS that there can be: each turn of a loop takes one.
-        private static final int MOST_TURNS = 4000;
+        // Above what can be due in a whole TEXT.
+        private static final int MOST_TURNS = 100000;
 
         private final Lexemes lexemes;
         private final Feed feed;
         private final Openings openings;
+        private final Pile pile;
         private Tree tree;
         private int faultNumber;
         private int faultPlace;
@@ -929,6 +1072,7 @@ public final class LayoutDesk {
             lexemes = source;
             feed = tokens;
             openings = new Openings();
+            pile = new Pile();
             tree = target;
         }
 
@@ -944,36 +1088,140 @@ public final class LayoutDesk {
             tree = target;
             tree.empty();
             openings.empty();
+            pile.empty();
             faultNumber = 0;
             faultPlace = 0;
             feed.start();
-            int start = tree.add(Kind.PROGRAM);
-            if (parseBlock(DECLARATIONS, 0) && feed.sort() != Sort.END) {
-                refuse(4);
+            openBlock(Due.DECLARATIONS, tree.add(Kind.PROGRAM));
+            for (int turn = 0; turn < MOST_TURNS && !pile.isEmpty() && faultNumber == 0; turn++) {
+                int due = pile.topDue();
+                int node = pile.topNode();
+                pile.pop();
+                if (due < Due.DECLARATION_BLOCK) {
+                    meetToken(due);
+                } else if (due < Due.PATTERN) {
+                    meetPartOfBlock(due, node);
+                } else {
+                    meetPartOfThing(due, node);
+                }
             }
-            tree.close(start);
+            if (faultNumber == 0 && feed.sort() != Sort.END) {
+                refuse();
+            }
+            refuseTooFarIn();
         }
 
-        private boolean refuse(int number) {
-            faultNumber = number;
+        /** FAULT 4 at the LEXEME at hand. */
+        private void refuse() {
+            faultNumber = 4;
             faultPlace = lexemes.placeOf(feed.position());
-            return false;
         }
 
-        private boolean mayOpen(int open) {
-            if (open >= Openings.MOST_OPEN) {
-                return refuse(5);
+        /** FAULT 5, which is ahead of any FAULT 4: nothing is opened behind that. */
+        private void refuseTooFarIn() {
+            int first = openings.firstTooFarIn();
+            if (first != NONE) {
+                faultNumber = 5;
+                faultPlace = lexemes.placeOf(openings.positionOf(first));
+                feed.cut(openings.tokenOf(first));
             }
-            openings.add(open + 1, feed.size(), feed.position());
-            return true;
         }
 
-        private boolean expect(int sort) {
-            if (feed.sort() != sort) {
-                return refuse(4);
+        private void meetPartOfBlock(int due, int node) {
+            switch (due) {
+                case Due.DECLARATION_BLOCK:
+                    openBlock(Due.DECLARATIONS, tree.add(Kind.BLOCK));
+                    break;
+                case Due.CASE_BLOCK:
+                    openBlock(Due.CASES, tree.add(Kind.BLOCK));
+                    break;
+                case Due.STEP_BLOCK:
+                    openBlock(Due.STEPS, tree.add(Kind.BLOCK));
+                    break;
+                case Due.DECLARATIONS:
+                case Due.CASES:
+                case Due.STEPS:
+                    meetThings(due, node);
+                    break;
+                case Due.DECLARATION:
+                    meetDeclaration();
+                    break;
+                case Due.CASE:
+                    pile.pushRow(Due.IN_CASE, Due.NODE_END, tree.add(Kind.ALTERNATIVE));
+                    break;
+                case Due.STEP:
+                    meetStep();
+                    break;
+                case Due.WHERE:
+                    meetWhere();
+                    break;
+                case Due.TAKING:
+                    meetTaking(node);
+                    break;
+                case Due.LETTING:
+                    meetLetting(node);
+                    break;
+                default:
+                    meetBehindThing(due - Due.BEHIND, node);
+                    break;
             }
-            feed.take();
-            return true;
+        }
+
+        private void meetPartOfThing(int due, int node) {
+            switch (due) {
+                case Due.PATTERN:
+                    meetPattern();
+                    break;
+                case Due.PATTERNS:
+                    meetPatterns();
+                    break;
+                case Due.WHOLE_PATTERN:
+                    meetWholePattern();
+                    break;
+                case Due.EXPRESSION:
+                    pile.push(Due.CHAIN, tree.size());
+                    pile.push(Due.OPERAND, NONE);
+                    break;
+                case Due.OPERAND:
+                    meetOperand();
+                    break;
+                case Due.ATOM:
+                    meetAtom();
+                    break;
+                case Due.CHAIN:
+                    meetChain(node);
+                    break;
+                case Due.LINKS:
+                    meetLinks();
+                    break;
+                case Due.APPLIED:
+                    meetApplied(node);
+                    break;
+                case Due.ATOMS:
+                    meetAtoms();
+                    break;
+                case Due.ROW:
+                    meetRow(node);
+                    break;
+                case Due.OPENED_END:
+                    tree.close(node);
+                    openings.leave();
+                    break;
+                default:
+                    tree.close(node);
+                    break;
+            }
+        }
+
+        private void meetToken(int sort) {
+            if ((sort == Sort.THEN || sort == Sort.ELSE) && feed.isPartAhead(sort)) {
+                feed.take();
+            }
+            if (feed.sort() == sort) {
+                feed.take();
+            } else {
+                refuse();
+            }
         }
 
         private void takeLeaf(int kind) {
@@ -982,317 +1230,222 @@ public final class LayoutDesk {
             feed.take();
         }
 
-        private boolean parseBlock(int what, int open) {
-            if (!mayOpen(open) || !expect(Sort.BRACE_OPEN)) {
-                return false;
-            }
-            boolean parted = true;
-            for (int turn = 0; turn < MOST_TURNS; turn++) {
-                int sort = feed.sort();
-                if (sort == Sort.BRACE_CLOSE) {
-                    feed.take();
-                    return true;
-                }
-                if (sort == Sort.SEMICOLON) {
-                    feed.take();
-                    parted = true;
-                } else if (parted && beginsThing(what, sort)) {
-                    if (!parseThing(what, open + 1)) {
-                        return false;
-                    }
-                    parted = false;
-                } else {
-                    return feed.closeByError() || refuse(4);
-                }
-            }
-            return refuse(4);
+        /** The LEXEME at hand opens something. */
+        private void enter() {
+            openings.enter(feed.size(), feed.position());
         }
 
-        private boolean parseBlockNode(int what, int open) {
-            int start = tree.add(Kind.BLOCK);
-            if (!parseBlock(what, open)) {
-                return false;
-            }
-            tree.close(start);
-            return true;
+        private void openBlock(int things, int node) {
+            enter();
+            pile.push(things, node);
+            pile.push(Sort.BRACE_OPEN, NONE);
         }
 
-        private static boolean beginsThing(int what, int sort) {
-            switch (what) {
-                case DECLARATIONS:
+        private static boolean beginsThing(int things, int sort) {
+            switch (things) {
+                case Due.DECLARATIONS:
                     return sort == Sort.NAME;
-                case CASES:
+                case Due.CASES:
                     return Sort.beginsPattern(sort);
                 default:
                     return Sort.beginsExpression(sort);
             }
         }
 
-        private boolean parseThing(int what, int open) {
-            switch (what) {
-                case DECLARATIONS:
-                    return parseDeclaration(open);
-                case CASES:
-                    return parseCase(open);
-                default:
-                    return feed.sort() == Sort.LET ? parseLetStep(open) : parseStep(open);
+        private void meetThings(int things, int node) {
+            if (beginsThing(things, feed.sort())) {
+                pile.push(things + Due.BEHIND, node);
+                pile.push(things + Due.SINGLE, NONE);
+            } else {
+                meetBehindThing(things, node);
             }
         }
 
-        private boolean parseDeclaration(int open) {
-            int start = tree.size();
-            takeLeaf(Kind.DECLARATION);
-            for (int turn = 0; turn < MOST_TURNS && Sort.beginsPattern(feed.sort()); turn++) {
-                if (!parsePattern(open)) {
-                    return false;
-                }
-            }
-            if (!expect(Sort.EQUALS) || !parseExpression(open) || !parseWhere(open)) {
-                return false;
-            }
-            tree.close(start);
-            return true;
-        }
-
-        private boolean parseCase(int open) {
-            int start = tree.add(Kind.ALTERNATIVE);
-            if (!parseWholePattern(open) || !expect(Sort.ARROW) || !parseExpression(open)
-                    || !parseWhere(open)) {
-                return false;
-            }
-            tree.close(start);
-            return true;
-        }
-
-        private boolean parseWhere(int open) {
-            if (feed.sort() != Sort.WHERE) {
-                return true;
-            }
-            feed.take();
-            return parseBlockNode(DECLARATIONS, open);
-        }
-
-        private boolean parseStep(int open) {
-            int start = tree.size();
-            if (!parseExpression(open)) {
-                return false;
-            }
-            if (feed.sort() != Sort.TAKES || !tree.isWholePattern(start)) {
-                return true;
-            }
-            tree.insert(start, Kind.TAKING);
-            feed.take();
-            if (!parseExpression(open)) {
-                return false;
-            }
-            tree.close(start);
-            return true;
-        }
-
-        private boolean parseLetStep(int open) {
-            int start = tree.add(Kind.LETTING);
-            int firstInside = openings.size();
-            feed.take();
-            if (!parseBlockNode(DECLARATIONS, open)) {
-                return false;
-            }
-            if (feed.sort() == Sort.IN) {
-                tree.setKind(start, Kind.LET);
-                if (!deepen(firstInside)) {
-                    return false;
-                }
+        private void meetBehindThing(int things, int node) {
+            int sort = feed.sort();
+            if (sort == Sort.SEMICOLON) {
                 feed.take();
-                if (!parseExpression(open + 1)) {
-                    return false;
-                }
+                pile.push(things, node);
+            } else if (sort == Sort.BRACE_CLOSE) {
+                feed.take();
+                closeBlock(node);
+            } else if (feed.closeByError()) {
+                closeBlock(node);
+            } else {
+                refuse();
             }
-            tree.close(start);
-            return true;
         }
 
-        private boolean deepen(int firstInside) {
-            int tooFarIn = openings.deepen(firstInside);
-            if (tooFarIn == NONE) {
-                return true;
-            }
-            feed.cut(openings.tokenOf(tooFarIn));
-            faultNumber = 5;
-            faultPlace = lexemes.placeOf(openings.positionOf(tooFarIn));
-            return false;
+        private void closeBlock(int node) {
+            tree.close(node);
+            openings.leave();
         }
 
-        private boolean parseExpression(int open) {
-            int start = tree.size();
-            if (!parseOperand(open)) {
-                return false;
-            }
-            if (feed.sort() != Sort.OPERATOR) {
-                return true;
-            }
-            tree.insert(start, Kind.CHAIN);
-            for (int turn = 0; turn < MOST_TURNS && feed.sort() == Sort.OPERATOR; turn++) {
-                takeLeaf(Kind.OPERATOR);
-                if (!parseOperand(open)) {
-                    return false;
-                }
-            }
-            tree.close(start);
-            return true;
+        private void meetDeclaration() {
+            int node = tree.size();
+            takeLeaf(Kind.DECLARATION);
+            pile.pushRow(Due.IN_DECLARATION, Due.NODE_END, node);
         }
 
-        private boolean parseOperand(int open) {
+        private void meetWhere() {
+            if (feed.sort() == Sort.WHERE) {
+                feed.take();
+                pile.push(Due.DECLARATION_BLOCK, NONE);
+            }
+        }
+
+        private void meetStep() {
+            if (feed.sort() == Sort.LET) {
+                openings.enterLetStep(feed.size(), feed.position());
+                pile.push(Due.LETTING, tree.add(Kind.LETTING));
+                pile.push(Due.DECLARATION_BLOCK, NONE);
+                feed.take();
+            } else {
+                pile.push(Due.TAKING, tree.size());
+                pile.push(Due.EXPRESSION, NONE);
+            }
+        }
+
+        private void meetTaking(int node) {
+            if (feed.sort() == Sort.TAKES && tree.isWholePattern(node)) {
+                feed.take();
+                tree.insert(node, Kind.TAKING);
+                pile.push(Due.NODE_END, node);
+                pile.push(Due.EXPRESSION, NONE);
+            }
+        }
+
+        private void meetLetting(int node) {
+            boolean isOperand = feed.sort() == Sort.IN;
+            openings.settleLetStep(isOperand);
+            if (isOperand) {
+                feed.take();
+                tree.setKind(node, Kind.LET);
+                pile.push(Due.OPENED_END, node);
+                pile.push(Due.EXPRESSION, NONE);
+            } else {
+                tree.close(node);
+            }
+        }
+
+        private void meetPattern() {
+            int sort = feed.sort();
+            if (sort == Sort.ROUND_OPEN) {
+                enter();
+                feed.take();
+                pile.pushRow(Due.IN_BRACKETS, Due.OPENED_END, tree.add(Kind.BRACKETS));
+            } else if (Sort.beginsPattern(sort)) {
+                takeLeaf(Kind.ofLeaf(sort));
+            } else {
+                refuse();
+            }
+        }
+
+        private void meetPatterns() {
+            if (Sort.beginsPattern(feed.sort())) {
+                pile.push(Due.PATTERNS, NONE);
+                pile.push(Due.PATTERN, NONE);
+            }
+        }
+
+        private void meetWholePattern() {
+            if (feed.sort() != Sort.CON) {
+                pile.push(Due.PATTERN, NONE);
+                return;
+            }
+            int node = tree.size();
+            takeLeaf(Kind.CON);
+            if (Sort.beginsPattern(feed.sort())) {
+                tree.insert(node, Kind.APPLIED);
+                pile.push(Due.NODE_END, node);
+                pile.push(Due.PATTERNS, NONE);
+            }
+        }
+
+        private void meetOperand() {
             int sort = feed.sort();
             if (Sort.beginsAtom(sort)) {
-                return parseAtoms(open);
-            }
-            if (!Sort.beginsExpression(sort)) {
-                return refuse(4);
-            }
-            if (!mayOpen(open)) {
-                return false;
-            }
-            int start = tree.add(Kind.ofOperand(sort));
-            feed.take();
-            if (!parseRest(sort, open + 1)) {
-                return false;
-            }
-            tree.close(start);
-            return true;
-        }
-
-        /** What comes behind the first TOKEN of an operand. */
-        private boolean parseRest(int sort, int open) {
-            switch (sort) {
-                case Sort.BACKSLASH:
-                    return parseLambda(open);
-                case Sort.LET:
-                    return parseBlockNode(DECLARATIONS, open) && expect(Sort.IN)
-                            && parseExpression(open);
-                case Sort.IF:
-                    return parseExpression(open) && parseBranch(Sort.THEN, open)
-                            && parseBranch(Sort.ELSE, open);
-                case Sort.CASE:
-                    return parseExpression(open) && expect(Sort.OF)
-                            && parseBlockNode(CASES, open);
-                default:
-                    return parseBlockNode(STEPS, open);
-            }
-        }
-
-        private boolean parseLambda(int open) {
-            if (!parsePattern(open)) {
-                return false;
-            }
-            for (int turn = 0; turn < MOST_TURNS && Sort.beginsPattern(feed.sort()); turn++) {
-                if (!parsePattern(open)) {
-                    return false;
-                }
-            }
-            return expect(Sort.ARROW) && parseExpression(open);
-        }
-
-        private boolean parseBranch(int word, int open) {
-            if (feed.isPartAhead(word)) {
+                pile.push(Due.APPLIED, tree.size());
+                pile.push(Due.ATOM, NONE);
+            } else if (Sort.beginsExpression(sort)) {
+                enter();
                 feed.take();
+                int node = tree.add(Kind.ofOperand(sort));
+                pile.pushRow(Due.inOperand(sort), Due.OPENED_END, node);
+            } else {
+                refuse();
             }
-            return expect(word) && parseExpression(open);
         }
 
-        private boolean parseAtoms(int open) {
-            int start = tree.size();
-            if (!parseAtom(open)) {
-                return false;
+        private void meetChain(int node) {
+            if (feed.sort() == Sort.OPERATOR) {
+                tree.insert(node, Kind.CHAIN);
+                pile.push(Due.NODE_END, node);
+                pile.push(Due.LINKS, NONE);
             }
-            if (!Sort.beginsAtom(feed.sort())) {
-                return true;
+        }
+
+        private void meetLinks() {
+            if (feed.sort() == Sort.OPERATOR) {
+                takeLeaf(Kind.OPERATOR);
+                pile.push(Due.LINKS, NONE);
+                pile.push(Due.OPERAND, NONE);
             }
-            tree.insert(start, Kind.APPLIED);
-            for (int turn = 0; turn < MOST_TURNS && Sort.beginsAtom(feed.sort()); turn++) {
-                if (!parseAtom(open)) {
-                    return false;
-                }
+        }
+
+        private void meetApplied(int node) {
+            if (Sort.beginsAtom(feed.sort())) {
+                tree.insert(node, Kind.APPLIED);
+                pile.push(Due.NODE_END, node);
+                pile.push(Due.ATOMS, NONE);
             }
-            tree.close(start);
-            return true;
+        }
+
+        private void meetAtoms() {
+            if (Sort.beginsAtom(feed.sort())) {
+                pile.push(Due.ATOMS, NONE);
+                pile.push(Due.ATOM, NONE);
+            }
         }
 
         /** An ATOM, whose first TOKEN was looked at. */
-        private boolean parseAtom(int open) {
+        private void meetAtom() {
             int sort = feed.sort();
-            switch (sort) {
-                case Sort.ROUND_OPEN:
-                    return mayOpen(open) && parseRow(Kind.TUPLE, Sort.ROUND_CLOSE, open + 1);
-                case Sort.SQUARE_OPEN:
-                    return mayOpen(open) && parseRow(Kind.LIST, Sort.SQUARE_CLOSE, open + 1);
-                default:
-                    takeLeaf(Kind.ofLeaf(sort));
-                    return true;
-            }
-        }
-
-        private boolean parseRow(int kind, int closer, int open) {
-            int start = tree.add(kind);
-            feed.take();
-            int parts = 0;
-            boolean goesOn = feed.sort() != closer;
-            for (int turn = 0; turn < MOST_TURNS && goesOn; turn++) {
-                if (!parseExpression(open)) {
-                    return false;
-                }
-                parts++;
-                goesOn = feed.sort() == Sort.COMMA;
-                if (goesOn) {
-                    feed.take();
-                }
-            }
-            if (!expect(closer)) {
-                return false;
-            }
-            if (kind == Kind.TUPLE && parts == 1) {
-                tree.setKind(start, Kind.BRACKETS);
-            }
-            tree.close(start);
-            return true;
-        }
-
-        private boolean parsePattern(int open) {
-            int sort = feed.sort();
-            if (!Sort.beginsPattern(sort)) {
-                return refuse(4);
-            }
-            if (sort != Sort.ROUND_OPEN) {
+            if (sort != Sort.ROUND_OPEN && sort != Sort.SQUARE_OPEN) {
                 takeLeaf(Kind.ofLeaf(sort));
-                return true;
+                return;
             }
-            if (!mayOpen(open)) {
-                return false;
-            }
-            int start = tree.add(Kind.BRACKETS);
+            enter();
             feed.take();
-            if (!parseWholePattern(open + 1) || !expect(Sort.ROUND_CLOSE)) {
-                return false;
+            int node = tree.add(sort == Sort.ROUND_OPEN ? Kind.TUPLE : Kind.LIST);
+            if (feed.sort() == closerOf(node)) {
+                feed.take();
+                openings.leave();
+            } else {
+                if (sort == Sort.ROUND_OPEN) {
+                    tree.setKind(node, Kind.BRACKETS);
+                }
+                pile.push(Due.ROW, node);
+                pile.push(Due.EXPRESSION, NONE);
             }
-            tree.close(start);
-            return true;
         }
 
-        private boolean parseWholePattern(int open) {
-            int start = tree.size();
-            boolean takesParts = feed.sort() == Sort.CON;
-            if (!parsePattern(open)) {
-                return false;
+        private int closerOf(int node) {
+            return tree.kindOf(node) == Kind.LIST ? Sort.SQUARE_CLOSE : Sort.ROUND_CLOSE;
+        }
+
+        private void meetRow(int node) {
+            if (feed.sort() != Sort.COMMA) {
+                pile.push(Due.OPENED_END, node);
+                pile.push(closerOf(node), NONE);
+                return;
             }
-            if (!takesParts || !Sort.beginsPattern(feed.sort())) {
-                return true;
+            feed.take();
+            if (tree.kindOf(node) == Kind.BRACKETS) {
+                tree.setKind(node, Kind.TUPLE);
             }
-            tree.insert(start, Kind.APPLIED);
-            for (int turn = 0; turn < MOST_TURNS && Sort.beginsPattern(feed.sort()); turn++) {
-                if (!parsePattern(open)) {
-                    return false;
-                }
-            }
-            tree.close(start);
-            return true;
+            pile.push(Due.ROW, node);
+            pile.push(Due.EXPRESSION, NONE);
         }
     }
 

@@ -1117,7 +1117,7 @@ public final class LayoutDesk {
             faultPlace = lexemes.placeOf(feed.position());
         }
 
-        /** FAULT 5, which is ahead of any FAULT 4: nothing is opened behind that. */
+        /** FAULT 5, which is ahead of any FAULT 4: what was opened could stand. */
         private void refuseTooFarIn() {
             int first = openings.firstTooFarIn();
             if (first != NONE) {
@@ -1152,17 +1152,19 @@ public final class LayoutDesk {
                 case Due.STEP:
                     meetStep();
                     break;
+                case Due.BEHIND_DECLARATION:
+                case Due.BEHIND_CASE:
+                case Due.BEHIND_STEP:
+                    meetBehindThing(due - Due.BEHIND, node);
+                    break;
                 case Due.WHERE:
                     meetWhere();
                     break;
                 case Due.TAKING:
                     meetTaking(node);
                     break;
-                case Due.LETTING:
-                    meetLetting(node);
-                    break;
                 default:
-                    meetBehindThing(due - Due.BEHIND, node);
+                    meetLetting(node);
                     break;
             }
         }
@@ -1236,9 +1238,14 @@ public final class LayoutDesk {
         }
 
         private void openBlock(int things, int node) {
+            // A { that begins a line may have a ; or a } put in ahead of it, which cannot stand.
+            if (feed.sort() != Sort.BRACE_OPEN) {
+                refuse();
+                return;
+            }
             enter();
+            feed.take();
             pile.push(things, node);
-            pile.push(Sort.BRACE_OPEN, NONE);
         }
 
         private static boolean beginsThing(int things, int sort) {

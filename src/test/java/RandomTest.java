@@ -11,6 +11,7 @@ public final class RandomTest {
   private static final int TREES = 6000;
   private static final int SPOILT = 4;
   private static final int SOUPS = 20000;
+  private static final int DEEP = 3000;
 
   public static void main(String[] args) {
     int read = 0;
@@ -38,8 +39,35 @@ public final class RandomTest {
     for (int seed = 0; seed < SOUPS; seed++) {
       oracle(soup(new Random(seed)));
     }
+    int[] deep = new int[6];
+    for (int seed = 0; seed < DEEP; seed++) {
+      deepTexts(seed, deep);
+    }
+    System.out.println("deep texts: " + deep[0] + " whole, " + deep[4] + " with FAULT 4, " + deep[5] + " with 5");
     System.out.println(read + " trees, " + faults + " spoilt texts with a FAULT, " + whole + " without");
     BENCH.end();
+  }
+
+  /** Some of them whole, some spoilt, about as far in as may be and further. */
+  private static void deepTexts(int seed, int[] faults) {
+    Maker maker = new Maker(seed);
+    Maker.Node program = maker.deepProgram(8 + seed % 24);
+    String text = maker.laidOut(program);
+    if (text.length() > 2900) {
+      return;
+    }
+    Random chance = new Random(seed + 2000000L);
+    String[] all = {text, spoil(text, chance), spoil(text, chance)};
+    for (String one : all) {
+      Oracle oracle = new Oracle(one);
+      if (oracle.words.size() <= 800 && one.length() <= 3000) {
+        oracle(one);
+        faults[oracle.fault]++;
+        if (one.equals(text) && oracle.fault == 0) {
+          tree(text, program);
+        }
+      }
+    }
   }
 
   private static void tree(String text, Maker.Node program) {
@@ -92,7 +120,7 @@ public final class RandomTest {
     LayoutDesk x = Bench.desk(text);
     int answer = x.read();
     boolean whole = oracle.faultPlace < 0;
-    BENCH.due("FAULT of " + text, x.fault(), whole ? 0 : 4);
+    BENCH.due("FAULT of " + text, x.fault(), oracle.fault);
     BENCH.due("place of the FAULT of " + text, answer < 0 ? -100 - answer : -1, oracle.faultPlace);
     StringBuilder due = new StringBuilder();
     for (int token : oracle.tokens) {

@@ -10,6 +10,9 @@ public final class RuleTest {
     cannotStand();
     tooFarIn();
     letsAtTheEdge();
+    letsThatAreTooFarIn();
+    inBehindTheEdge();
+    veryFarIn();
     reads();
     BENCH.end();
   }
@@ -252,6 +255,90 @@ public final class RuleTest {
         answer(around.replaceFirst("\\(", "") + "{let {x = 1} in (x)}" + times(25, ")")), 0);
     BENCH.due("one less around: LET, and (( behind in",
         answer(around.replaceFirst("\\(", "") + "{let {x = 1} in ((x))}"), -100 - 32 - 17);
+  }
+
+  /** The program's block, so many of (, do and its block are open around the let. */
+  private static void letsThatAreTooFarIn() {
+    dueFault("f = " + times(27, "(") + "do let b = 1 in b" + times(27, ")"), 5, 34,
+        "-10 0 1" + run(2, 27) + " 29 -10");
+    dueFault("f = " + times(27, "(") + "do a; let {b = 1} in b", 5, 37,
+        "-10 0 1" + run(2, 27) + " 29 -10 30 31");
+    dueFault("f = " + times(27, "(") + "do\n   a\n   let b = 1\n   b", 5, 46,
+        "-10 0 1" + run(2, 27) + " 29 -10 30 -11 31");
+    dueFault("f = " + times(27, "(") + "do\n   a\n   let b = 1\n    in b", 5, 42,
+        "-10 0 1" + run(2, 27) + " 29 -10 30 -11");
+    // No in comes behind these blocks: the first of them is the 31st, and it ends with the TEXT.
+    dueFault("f = " + times(27, "(") + "do let b = 1" + times(27, ")"), 5, 38,
+        "-10 0 1" + run(2, 27) + " 29 -10 30");
+    dueFault("f = " + times(27, "(") + "do let", 5, 37, "-10 0 1" + run(2, 27) + " 29 -10 30");
+    // This in comes behind an empty block.
+    dueFault("f = " + times(27, "(") + "do let in b", 5, 34, "-10 0 1" + run(2, 27) + " 29 -10");
+    // The ; that is put in ahead of the { of the 31st block cannot stand.
+    dueFault("f = " + times(27, "(") + "do let\n{b = 1}", 4, 38, "-10 0 1" + run(2, 27) + " 29 -10 30");
+    BENCH.due("28 (, do: its block", answer("f = " + times(28, "(") + "do let b = 1 in b"), -135);
+    BENCH.due("29 (, do", answer("f = " + times(29, "(") + "do let b = 1 in b"), -133);
+    BENCH.due("a second step: let",
+        answer("f = " + times(27, "(") + "do {a; let {} in b}"), -100 - 38);
+  }
+
+  private static int tooFarIn(String ahead, int most, String behind) {
+    int answer = answer(ahead + times(40, "(") + "1" + times(40, ")") + behind);
+    BENCH.due("one less: " + ahead, answer(ahead + times(most, "(") + "1" + times(most, ")") + behind), 0);
+    return -100 - answer - ahead.length();
+  }
+
+  /** What in makes of the lets, though it stands behind what is too far in. */
+  private static void inBehindTheEdge() {
+    BENCH.due("let", tooFarIn("f = do let b = ", 26, ""), 26);
+    BENCH.due("let, in", tooFarIn("f = do let b = ", 25, " in b"), 25);
+    BENCH.due("let, in, another line", tooFarIn("f = do\n  let b = ", 25, "\n   in b"), 25);
+    BENCH.due("let with braces", tooFarIn("f = do {let {b = ", 26, "}}"), 26);
+    BENCH.due("let with braces, in", tooFarIn("f = do {let {b = ", 25, "} in b}"), 25);
+    BENCH.due("in of another step", tooFarIn("f = do {let {b = ", 26, "}; let {} in b}"), 26);
+    BENCH.due("two lets", tooFarIn("f = do let a = do let b = ", 23, ""), 23);
+    BENCH.due("two lets, in", tooFarIn("f = do let a = do let b = ", 22, " in b"), 22);
+    BENCH.due("two lets, in, in", tooFarIn("f = do let a = do let b = ", 21, " in b in a"), 21);
+    BENCH.due("in of the outer let alone",
+        tooFarIn("f = do {let {a = do {let {b = ", 22, "}; a}} in a}"), 22);
+    BENCH.due("behind in", tooFarIn("f = do let b = 1 in ", 26, ""), 26);
+    BENCH.due("behind the first in", tooFarIn("f = do let a = do let b = 1 in ", 23, ""), 23);
+    BENCH.due("behind the first in, in", tooFarIn("f = do let a = do let b = 1 in ", 22, " in a"), 22);
+    BENCH.due("patterns", tooFarIn("f = do let b ", 25, " = 1 in b"), 25);
+    // A FAULT 4 ahead of in: in does not come behind the block; behind it: it came.
+    String brackets = times(40, "(") + "1" + times(40, ")");
+    BENCH.due("FAULT 4 ahead of in", answer("f = do let b = " + brackets + "{ in b"), -115 - 26);
+    BENCH.due("FAULT 4 at the end", answer("f = do let b = " + times(40, "(") + " in b"), -115 - 26);
+    BENCH.due("FAULT 4 in the block", answer("f = do {let {b = " + brackets + " in b}"), -117 - 26);
+    BENCH.due("FAULT 4 behind in", answer("f = do let b = " + brackets + " in ="), -115 - 25);
+  }
+
+  /** As far in as 800 LEXEMES can be. */
+  private static void veryFarIn() {
+    BENCH.due("let", tooFar(times(390, "("), times(390, ")")), 26);
+    BENCH.due("let, in", tooFar(times(390, "("), times(390, ")") + " in b"), 25);
+    BENCH.due("if", answer("f = " + times(797, "if ")), -104 - 29 * 3);
+    BENCH.due("if in a let, in", answer("f = do let b = "
+        + times(130, "if ") + "1" + times(130, " then 1 else 1") + " in b"), -115 - 25 * 3);
+    BENCH.due("if in a let", answer("f = do let b = "
+        + times(130, "if ") + "1" + times(130, " then 1 else 1")), -115 - 26 * 3);
+    BENCH.due("do", answer("f = " + times(798, "do ")), -104 - 15 * 3);
+    BENCH.due("[", answer("f = " + times(798, "[")), -104 - 29);
+    BENCH.due("( of patterns", answer("f " + times(799, "(")), -102 - 29);
+    BENCH.due("case", answer("f = " + times(590, "case ")), -104 - 29 * 5);
+    BENCH.due("where", answer(times(200, "f = a where ")), -100 - 30 * 12);
+    // Each level has do, its block, and the block of let: 9 levels are 27, and do, its block 29, 30.
+    BENCH.due("lets in steps", answer("f = " + times(160, "do let b = ") + "1"), -104 - 9 * 11 - 7);
+    // With in behind each of them, let counts: 7 levels are 28, and do, its block 30, let 31.
+    BENCH.due("lets in steps, in",
+        answer("f = " + times(130, "do let b = ") + "1" + times(130, " in b")), -104 - 7 * 11 - 3);
+    // The in of the innermost alone, which is too far in itself.
+    BENCH.due("lets in steps, one in",
+        answer("f = " + times(130, "do let b = ") + "1 in b"), -104 - 9 * 11 - 7);
+  }
+
+  private static int tooFar(String inside, String behind) {
+    String ahead = "f = do let b = ";
+    return -100 - answer(ahead + inside + "1" + behind) - ahead.length();
   }
 
   private static void reads() {

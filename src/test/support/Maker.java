@@ -91,6 +91,53 @@ final class Maker {
     return program;
   }
 
+  /** A declaration with so many things within one another, of which many are lets in steps. */
+  Node deepProgram(int wraps) {
+    Node inner = expression(1);
+    for (int k = 0; k < wraps; k++) {
+      inner = wrapped(inner);
+    }
+    return new Node("PROGRAM", "").with(declared(inner));
+  }
+
+  private Node declared(Node expression) {
+    return new Node("DECLARATION", one(NAMES)).with(expression);
+  }
+
+  private Node blockOf(Node... parts) {
+    return new Node("BLOCK", "").with(parts);
+  }
+
+  private Node wrapped(Node inner) {
+    switch (chance.nextInt(14)) {
+      case 0:
+      case 1:
+        return new Node("LIST", "").with(name(), inner);
+      case 2:
+      case 3:
+        return new Node("DO", "").with(blockOf(
+            new Node("LET", "").with(blockOf(declared(inner)), name()), name()));
+      case 4:
+        return new Node("DO", "").with(blockOf(
+            name(), new Node("LET", "").with(blockOf(declared(name())), inner)));
+      case 5:
+      case 6:
+        return new Node("DO", "").with(blockOf(
+            new Node("LETTING", "").with(blockOf(declared(inner))), name()));
+      case 7:
+        return new Node("LET", "").with(blockOf(declared(inner)), name());
+      case 8:
+        return new Node("LAMBDA", "").with(pattern(1), inner);
+      case 9:
+        return once(2) ? new Node("IF", "").with(inner, name(), name())
+            : new Node("IF", "").with(name(), name(), inner);
+      case 10:
+        return new Node("CASE", "").with(name(), blockOf(new Node("ALTERNATIVE", "").with(name(), inner)));
+      default:
+        return new Node("BRACKETS", "").with(inner);
+    }
+  }
+
   private Node declaration(int depth) {
     Node declaration = new Node("DECLARATION", one(NAMES));
     while (once(3)) {

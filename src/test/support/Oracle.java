@@ -5,7 +5,7 @@ import java.util.regex.Pattern;
 
 /**
  * The rule of section 2 told again, word by word, over a grammar that is asked for what can stand.
- * It knows no limits, no FAULTS of section 1 and no COMMENTS within one another.
+ * It knows no FAULTS of section 1 and no COMMENTS within one another.
  */
 final class Oracle {
   // n NAME, k CON, 0 NUMBER, o OPERATOR, > is ->, < is <-, l let, i in, w where, d do, f of, c case,
@@ -25,7 +25,11 @@ final class Oracle {
   final List<Integer> openings = new ArrayList<>();
   final List<Integer> indents = new ArrayList<>();
   final List<Integer> tokens = new ArrayList<>();
-  /** The place of FAULT 4; -1: none. */
+  private static final int MOST_OPEN = 30;
+
+  /** The FAULT, 4 or 5; 0: none. */
+  int fault = 0;
+  /** Its place; -1: none. */
   int faultPlace = -1;
 
   private final Earley grammar = new Earley(GRAMMAR);
@@ -37,9 +41,34 @@ final class Oracle {
     findLexemes();
     for (int i = 0; i <= words.size() && faultPlace < 0; i++) {
       if (!meet(i)) {
-        faultPlace = i < words.size() ? places.get(i) : text.length();
+        fault = 4;
+        faultPlace = placeOf(i);
       }
     }
+    findTooFarIn();
+  }
+
+  private int placeOf(int i) {
+    return i < words.size() ? places.get(i) : text.length();
+  }
+
+  /** What is too far in can stand, so it is ahead of a FAULT 4, if there is one. */
+  private void findTooFarIn() {
+    List<Character> terminals = new ArrayList<>();
+    for (int token : tokens) {
+      terminals.add(token >= 0 ? terminal(words.get(token)) : token == -10 ? '{' : token == -11 ? ';' : '}');
+    }
+    int first = new Depths(terminals, MOST_OPEN).token;
+    if (first < 0) {
+      return;
+    }
+    int lexeme = tokens.get(first);
+    if (lexeme < 0) {
+      lexeme = first == 0 ? 0 : tokens.get(first - 1) + 1;
+    }
+    fault = 5;
+    faultPlace = placeOf(lexeme);
+    tokens.subList(first, tokens.size()).clear();
   }
 
   private void findLexemes() {

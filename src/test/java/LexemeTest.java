@@ -15,34 +15,10 @@ public final class LexemeTest {
     BENCH.end();
   }
 
-  /** place:kind:bytes of each LEXEME. */
-  private static String lexemes(LayoutDesk x) {
-    StringBuilder all = new StringBuilder();
-    for (int i = 0; i < x.count(1); i++) {
-      all.append(i == 0 ? "" : " ").append(x.lexeme(i, 0)).append(':').append(x.lexeme(i, 2));
-      all.append(':').append(x.lexeme(i, 3));
-    }
-    return all.toString();
-  }
-
-  /** COLUMN/OPENING/INDENT of each LEXEME, - where there is none. */
-  private static String columnsOf(LayoutDesk x) {
-    StringBuilder all = new StringBuilder();
-    for (int i = 0; i < x.count(1); i++) {
-      all.append(i == 0 ? "" : " ").append(x.lexeme(i, 1)).append('/').append(dash(x.lexeme(i, 4)));
-      all.append('/').append(dash(x.lexeme(i, 5)));
-    }
-    return all.toString();
-  }
-
-  private static String dash(int value) {
-    return value == LayoutDesk.NONE ? "-" : Integer.toString(value);
-  }
-
   private static void dueLexemes(String text, String want) {
     LayoutDesk x = Bench.desk(text);
     x.read();
-    BENCH.dueText("LEXEMES of " + text, lexemes(x), want);
+    BENCH.dueText("LEXEMES of " + text, Bench.lexemes(x), want);
   }
 
   private static void kinds() {
@@ -62,7 +38,7 @@ public final class LexemeTest {
   private static void columns() {
     LayoutDesk x = Bench.desk("  f =\n a\nb  c\n\n   d");
     x.read();
-    BENCH.dueText("columns", columnsOf(x), "3/3/- 5/-/- 2/-/2 1/-/1 4/-/- 4/-/4");
+    BENCH.dueText("columns", Bench.columns(x), "3/3/- 5/-/- 2/-/2 1/-/1 4/-/- 4/-/4");
   }
 
   private static void comments() {
@@ -85,40 +61,25 @@ public final class LexemeTest {
     dueLexemes("+{-x-}+", "0:3:1 6:3:1");
     LayoutDesk x = Bench.desk("a {- \n -} b {-\n\n-}c\n{--} d");
     x.read();
-    BENCH.dueText("behind comments", columnsOf(x), "1/1/- 5/-/5 3/-/3 6/-/6");
+    BENCH.dueText("behind comments", Bench.columns(x), "1/1/- 5/-/5 3/-/3 6/-/6");
   }
 
   private static void openings() {
     LayoutDesk x = Bench.desk("{ f = do\n  {a;b} }");
     x.read();
-    BENCH.dueText("{ has no OPENING", columnsOf(x),
+    BENCH.dueText("{ has no OPENING", Bench.columns(x),
         "1/-/1 3/-/- 5/-/- 7/-/- 3/-/3 4/-/- 5/-/- 6/-/- 7/-/- 9/-/-");
     LayoutDesk y = Bench.desk("f = do\na where\n let x of 1");
     y.read();
-    BENCH.dueText("behind the words", columnsOf(y),
+    BENCH.dueText("behind the words", Bench.columns(y),
         "1/1/- 3/-/- 5/-/- 1/1/- 3/-/- 2/2/- 6/6/- 8/-/- 11/11/-");
     LayoutDesk z = Bench.desk("do do in then\n else");
     z.read();
-    BENCH.dueText("first and behind words", columnsOf(z), "1/1/- 4/4/- 7/7/- 10/-/- 2/-/2");
+    BENCH.dueText("first and behind words", Bench.columns(z), "1/1/- 4/4/- 7/7/- 10/-/- 2/-/2");
   }
 
   private static void dueFault(String text, int number, int place, int lexemes) {
-    LayoutDesk x = Bench.desk("g = 2");
-    x.read();
-    long digest = x.digest();
-    x.clear();
-    Bench.put(x, text);
-    BENCH.due("read() of " + text, x.read(), -100 - place);
-    BENCH.due("fault() of " + text, x.fault(), number);
-    BENCH.due("count(1) of " + text, x.count(1), lexemes);
-    BENCH.due("the LEXEME behind, of " + text, x.lexeme(lexemes, 0), LayoutDesk.NONE);
-    BENCH.due("count(2) of " + text, x.count(2), 0);
-    BENCH.due("token(0) of " + text, x.token(0), LayoutDesk.NONE);
-    BENCH.due("count(3) of " + text, x.count(3), 3);
-    BENCH.due("node(2, 3) of " + text, x.node(2, 3), 2);
-    BENCH.due("digest() of " + text, x.digest(), digest);
-    BENCH.due("count(4) of " + text, x.count(4), 2);
-    BENCH.dueText("THE TEXT stays", Bench.text(x), text);
+    BENCH.dueLexemeFault(text, number, place, lexemes);
   }
 
   private static void badByte() {

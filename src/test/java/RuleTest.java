@@ -18,31 +18,11 @@ public final class RuleTest {
   }
 
   private static void dueTokens(String text, String tokens) {
-    LayoutDesk x = Bench.desk(text);
-    int answer = x.read();
-    BENCH.due("read() of " + text, answer, x.count(3));
-    BENCH.due("there is a TREE of " + text, answer > 0 ? 1 : 0, 1);
-    BENCH.due("fault() of " + text, x.fault(), 0);
-    BENCH.dueText("TOKENS of " + text, Bench.tokens(x), tokens);
-    BENCH.due("the TOKEN behind", x.token(x.count(2)), LayoutDesk.NONE);
-    BENCH.due("the TOKEN ahead", x.token(-1), LayoutDesk.NONE);
+    BENCH.dueTokens(text, tokens);
   }
 
   private static void dueFault(String text, int number, int place, String tokens) {
-    LayoutDesk x = Bench.desk("g = 2");
-    x.read();
-    long digest = x.digest();
-    x.clear();
-    Bench.put(x, text);
-    BENCH.due("read() of " + text, x.read(), -100 - place);
-    BENCH.due("fault() of " + text, x.fault(), number);
-    BENCH.dueText("TOKENS of " + text, Bench.tokens(x), tokens);
-    BENCH.due("the TOKEN behind, of " + text, x.token(x.count(2)), LayoutDesk.NONE);
-    BENCH.due("count(3) of " + text, x.count(3), 3);
-    BENCH.due("node(1, 0) of " + text, x.node(1, 0), 1);
-    BENCH.due("digest() of " + text, x.digest(), digest);
-    BENCH.due("count(4) of " + text, x.count(4), 2);
-    BENCH.dueText("THE TEXT stays", Bench.text(x), text);
+    BENCH.dueFault(text, number, place, tokens);
   }
 
   private static void blocks() {

@@ -14,6 +14,7 @@ public final class WriteEdgeTest {
     blocksWithin();
     whatWasLaidOut();
     theTextBecomesIt();
+    deepest();
     fullWithBraces();
     fullByColumns();
     BENCH.end();
@@ -203,6 +204,36 @@ public final class WriteEdgeTest {
     desk.read();
     BENCH.due("write(0) of THE TREE before a FAULT", desk.write(0), 13);
     BENCH.due("fault() stays", desk.fault(), 4);
+  }
+
+  /** So many of each as may be open, with as many NODES within one another as that can be. */
+  private static void deepest() {
+    deepest("f = ", "a + b (", 29, "c", ")");
+    deepest("f = ", "a + b [", 29, "", "]");
+    deepest("f = ", "a + \\b -> ", 29, "c", "");
+    deepest("f = ", "a + if b c then d else ", 29, "e", "");
+    deepest("f = ", "a + do {B c <- ", 14, "d", "}");
+    deepest("f = ", "a + case b of {C d -> ", 14, "e", "}");
+    deepest("f = ", "a + let {b = ", 14, "c", "} in d");
+    deepest("f = ", "a + do {let {b = ", 9, "c", "}}");
+    deepest("", "f = a + b where {", 29, "", "}");
+    deepest("f ", "(B c ", 29, "d", ")");
+  }
+
+  private static void deepest(String ahead, String opener, int times, String inside, String closer) {
+    String end = ahead.equals("f ") ? " = 1" : "";
+    String text = ahead + opener.repeat(times) + inside + closer.repeat(times) + end;
+    LayoutDesk desk = readDesk(text);
+    int nodes = desk.count(3);
+    long digest = desk.digest();
+    for (int form : new int[] {0, 1, 1, 0}) {
+      BENCH.due("write(" + form + ") of " + text, desk.write(form) > 0 ? 1 : 0, 1);
+      BENCH.due("read() of what was written of " + text, desk.read(), nodes);
+      BENCH.due("digest() of what was written of " + text, desk.digest(), digest);
+    }
+    LayoutDesk more = Bench.desk(ahead + opener.repeat(times + 1) + inside + closer.repeat(times + 1) + end);
+    more.read();
+    BENCH.due("one more of " + opener, more.fault(), 5);
   }
 
   /** Names with one 32 ahead of each, so many bytes in all. */

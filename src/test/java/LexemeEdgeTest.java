@@ -294,6 +294,10 @@ public final class LexemeEdgeTest {
     }
     BENCH.dueLexemeFault(most + " $", 1, most.length() + 1, 800);
     BENCH.dueLexemeFault(most + " {-", 3, most.length() + 1, 800);
+    // The words leave open which FAULT this is; what was done stands: FAULT 2, the first in their row.
+    for (String last : new String[] {"abcdefghijklm", "Abcdefghijklm", "1234567", "++++"}) {
+      BENCH.dueLexemeFault(most + " " + last, 2, most.length() + 1, 800);
+    }
     BENCH.dueLexemeFault("(".repeat(801), 5, 800, 800);
     BENCH.dueLexemeFault("=".repeat(3) + " =".repeat(800), 5, 3 + 2 * 799 + 1, 800);
     BENCH.dueLexemeFault(";".repeat(3000), 5, 800, 800);

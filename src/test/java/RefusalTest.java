@@ -134,6 +134,11 @@ public final class RefusalTest {
         dueRefused(state + ": lexeme of the last", made, x -> x.lexeme(lexemes - 1, what),
             LayoutDesk.BAD);
       }
+      // The words leave open what comes first, BAD or NONE; what was done stands.
+      for (int i : new int[] {-1, lexemes, LEAST, GREATEST}) {
+        dueRefused(state + ": lexeme(" + i + ", " + what + ")", made, x -> x.lexeme(i, what),
+            LayoutDesk.BAD);
+      }
     }
     int tokens = made.get().count(2);
     for (int i : new int[] {-1, tokens, LEAST, GREATEST}) {
